@@ -145,7 +145,7 @@ public final class PermitOffice {
     switch (what) {
       case 0: return asked.zone;
       case 1: return asked.front;
-      case 2: return asked.area.size();
+      case 2: return asked.cells;
       case 3: return survey.builtCells(now, lot);
       case 4: return now.standingFloorArea(lot, null);
       case 5: return asked.area.untouchedSides();
@@ -193,7 +193,7 @@ public final class PermitOffice {
       case 2: return asked.use;
       case 3: return asked.floors;
       case 4: return asked.parking;
-      case 5: return asked.building.size();
+      case 5: return asked.cells;
       case 6: return asked.floorArea();
       case 7: return asked.phase;
       case 8: return asked.failures;
@@ -519,8 +519,10 @@ public final class PermitOffice {
 
     void addRectangle(int column, int row, int width, int height) {
       int cells = (1 << width) - 1 << column;
-      for (int i = Math.max(row, 0); i < row + height && i < ROWS; i++) {
-        rows[i] |= cells;
+      for (int i = 0; i < ROWS; i++) {
+        if (i >= row && i < row + height) {
+          rows[i] |= cells;
+        }
       }
     }
 
@@ -629,11 +631,13 @@ public final class PermitOffice {
     private int zone;
     private int front;
     private final Area area = new Area();
+    private int cells;
 
     void copyFrom(Lot other) {
       zone = other.zone;
       front = other.front;
       area.copyFrom(other.area);
+      cells = other.cells;
     }
   }
 
@@ -661,6 +665,7 @@ public final class PermitOffice {
     private int floors;
     private int parking;
     private final Area building = new Area();
+    private int cells;
     private int status;
     private int refusedFor;
     private int phase;
@@ -682,6 +687,7 @@ public final class PermitOffice {
       floors = 0;
       parking = 0;
       building.clear();
+      cells = 0;
       status = APPLIED;
       refusedFor = NONE;
       phase = 0;
@@ -701,6 +707,7 @@ public final class PermitOffice {
       floors = other.floors;
       parking = other.parking;
       building.copyFrom(other.building);
+      cells = other.cells;
       status = other.status;
       refusedFor = other.refusedFor;
       phase = other.phase;
@@ -721,7 +728,7 @@ public final class PermitOffice {
     }
 
     int floorArea() {
-      return building.size() * floors;
+      return cells * floors;
     }
 
     int applyFee() {
@@ -898,7 +905,7 @@ public final class PermitOffice {
     int cellsInLots() {
       int cells = 0;
       for (int i = 0; i < lotCount; i++) {
-        cells += lots[i].area.size();
+        cells += lots[i].cells;
       }
       return cells;
     }
@@ -1022,7 +1029,13 @@ public final class PermitOffice {
     }
 
     int unrelievedSet(Town town, Permit permit) {
-      return findingSet(town, permit) & ~relievedSet(town, permit);
+      int kinds = findingSet(town, permit);
+      for (int kind = 0; kind < KINDS; kind++) {
+        if (usedVariance(town, permit, kind) != NONE) {
+          kinds &= ~(1 << kind);
+        }
+      }
+      return kinds;
     }
 
     int usedVariances(Town town, Permit permit) {
@@ -1104,12 +1117,12 @@ public final class PermitOffice {
     private int coverage(Town town, Permit permit, Lot lot) {
       town.gatherBuildings(permit.lot, permit, built);
       built.addAll(permit.building);
-      return dividedUp(100 * built.cellsIn(lot.area), lot.area.size());
+      return dividedUp(100 * built.cellsIn(lot.area), lot.cells);
     }
 
     private int floorAreaShare(Town town, Permit permit, Lot lot) {
       int sum = permit.floorArea() + town.standingFloorArea(permit.lot, permit);
-      return dividedUp(10 * sum, lot.area.size());
+      return dividedUp(10 * sum, lot.cells);
     }
 
     private int leastSideDistance(Area building, Lot lot) {
@@ -1185,21 +1198,14 @@ public final class PermitOffice {
     int readInto(Town town) {
       position = 0;
       error = NONE;
-      int commands = readCommands(town);
+      int commands = 0;
+      boolean good;
+      do {
+        good = readCommand(town);
+        commands++;
+      } while (good && position < length && commands < TEXT);
       length = 0;
-      return commands;
-    }
-
-    private int readCommands(Town town) {
-      for (int commands = 1; commands <= TEXT; commands++) {
-        if (!readCommand(town)) {
-          return NONE;
-        }
-        if (position >= length) {
-          return commands;
-        }
-      }
-      return NONE;
+      return good ? commands : NONE;
     }
 
     private boolean readCommand(Town town) {
@@ -1219,7 +1225,7 @@ public final class PermitOffice {
       }
       position++;
       Lot lot = town.lots[town.lotCount];
-      lot.zone = readDigit(0, ZONES - 1);
+      lot.zone = readValue('0', 0, ZONES - 1);
       if (lot.zone == NONE) {
         return false;
       }
@@ -1230,6 +1236,7 @@ public final class PermitOffice {
       if (next() == ';' && town.hasLotCellIn(lot.area)) {
         return failAt(position);
       }
+      lot.cells = lot.area.size();
       town.lotCount++;
       return readSign(';');
     }
@@ -1241,22 +1248,23 @@ public final class PermitOffice {
       position++;
       Permit permit = town.permits[town.permitCount];
       permit.clear();
-      permit.lot = readDigit(0, town.lotCount - 1);
+      permit.lot = readValue('0', 0, town.lotCount - 1);
       if (permit.lot == NONE) {
         return false;
       }
-      permit.use = readDigit(0, USES - 1);
+      permit.use = readValue('0', 0, USES - 1);
       if (permit.use == NONE) {
         return false;
       }
-      permit.floors = readDigit(1, 9);
+      permit.floors = readValue('0', 1, 9);
       if (permit.floors == NONE) {
         return false;
       }
-      permit.parking = readDigit(0, 9);
+      permit.parking = readValue('0', 0, 9);
       if (permit.parking == NONE || !readArea(permit.building)) {
         return false;
       }
+      permit.cells = permit.building.size();
       permit.paid = permit.applyFee();
       town.permitCount++;
       return readSign(';');
@@ -1268,11 +1276,11 @@ public final class PermitOffice {
       }
       position++;
       Variance variance = town.variances[town.varianceCount];
-      variance.lot = readDigit(0, town.lotCount - 1);
+      variance.lot = readValue('0', 0, town.lotCount - 1);
       if (variance.lot == NONE) {
         return false;
       }
-      variance.kind = readDigit(FRONT, PARKING);
+      variance.kind = readValue('0', FRONT, PARKING);
       if (variance.kind == NONE) {
         return false;
       }
@@ -1291,30 +1299,31 @@ public final class PermitOffice {
 
     private boolean readCondition(Town town) {
       position++;
-      int number = readDigit(0, town.permitCount - 1);
+      int number = readValue('0', 0, town.permitCount - 1);
       if (number == NONE) {
         return false;
       }
-      int phase = readDigit(0, PHASES - 1);
+      int phase = readValue('0', 0, PHASES - 1);
       if (phase == NONE) {
         return false;
       }
       Permit permit = town.permits[number];
       int letter = next();
-      if (permit.conditions >= CONDITIONS || readLetter(26) == NONE) {
+      if (permit.conditions >= CONDITIONS || letter < 'a' || letter > 'z') {
         return failAt(position);
       }
+      position++;
       permit.addCondition(phase, letter);
       return readSign(';');
     }
 
     private boolean readRule(Town town) {
       position++;
-      int zone = readDigit(0, ZONES - 1);
+      int zone = readValue('0', 0, ZONES - 1);
       if (zone == NONE) {
         return false;
       }
-      int rule = readDigit(0, RULES - 1);
+      int rule = readValue('0', 0, RULES - 1);
       if (rule == NONE) {
         return false;
       }
@@ -1338,19 +1347,19 @@ public final class PermitOffice {
 
     private boolean readRectangle(Area area) {
       int start = position;
-      int column = readLetter(COLUMNS);
+      int column = readValue('a', 0, COLUMNS - 1);
       if (column == NONE) {
         return false;
       }
-      int row = readLetter(ROWS);
+      int row = readValue('a', 0, ROWS - 1);
       if (row == NONE) {
         return false;
       }
-      int width = readDigit(1, 9);
+      int width = readValue('0', 1, 9);
       if (width == NONE) {
         return false;
       }
-      int height = readDigit(1, 9);
+      int height = readValue('0', 1, 9);
       if (height == NONE) {
         return false;
       }
@@ -1362,33 +1371,27 @@ public final class PermitOffice {
     }
 
     private int readFront() {
-      int front = NONE;
-      switch (next()) {
-        case 'N': front = NORTH; break;
-        case 'E': front = EAST; break;
-        case 'S': front = SOUTH; break;
-        case 'W': front = WEST; break;
-        default: break;
+      int sign = next();
+      position++;
+      switch (sign) {
+        case 'N': return NORTH;
+        case 'E': return EAST;
+        case 'S': return SOUTH;
+        case 'W': return WEST;
+        default:
+          failAt(position - 1);
+          return NONE;
       }
-      return readWithin(front, 0, DIRECTIONS - 1);
-    }
-
-    private int readLetter(int letters) {
-      return readWithin(next() - 'a', 0, letters - 1);
-    }
-
-    private int readDigit(int least, int most) {
-      return readWithin(next() - '0', least, most);
     }
 
     private int readNumber(int least, int most) {
       int start = position;
-      int value = readDigit(0, 9);
+      int value = readValue('0', 0, 9);
       if (value == NONE) {
         return NONE;
       }
       if (value > 0 && next() >= '0' && next() <= '9') {
-        value = 10 * value + readDigit(0, 9);
+        value = 10 * value + readValue('0', 0, 9);
       }
       if (value < least || value > most) {
         failAt(start);
@@ -1405,7 +1408,8 @@ public final class PermitOffice {
       return true;
     }
 
-    private int readWithin(int value, int least, int most) {
+    private int readValue(char zero, int least, int most) {
+      int value = next() - zero;
       if (value < least || value > most) {
         failAt(position);
         return NONE;

@@ -235,10 +235,16 @@ public final class DecisionTest {
     varianceIs(o, 0, 0, 5, 2, 5, 2, 0);
     o.revoke(0);
     varianceIs(o, 0, 0, 5, 2, 5, 2, 0);
-    Desk.execute(o, "V121,4;");
+    Desk.execute(o, "V121,4;V053,4;P0061ec11;P0051ee11;");
     varianceIs(o, 3, 1, 2, 1, 10, 0, 1);
+    o.revoke(1);
+    o.decide(3);
+    o.decide(4);
+    varianceIs(o, 0, 0, 5, 2, 5, 2, 0);
+    varianceIs(o, 3, 1, 2, 1, 10, 0, 1);
+    varianceIs(o, 4, 0, 5, 3, 10, 2, 1);
     Desk.refused(INDEX, o, () -> o.variance(-1, 0));
-    Desk.refused(INDEX, o, () -> o.variance(4, 6));
+    Desk.refused(INDEX, o, () -> o.variance(5, 6));
     Desk.refused(ILLEGAL, o, () -> o.variance(3, 6));
     Desk.refused(ILLEGAL, o, () -> o.variance(0, -1));
     for (int wild : WILD) {

@@ -179,6 +179,13 @@ public final class FindingTest {
     Check.due(1, () -> o.permit(3, 0));
     Desk.execute(o, "P0010cd11;");
     measured(o, 5, 1, 0, 0);
+    PermitOffice corners = Desk.office("L0Naa99ja99;L0Nsa25sf29;", "Z000;Z010;Z060;P0010aa11ra11ai11;");
+    corners.decide(0);
+    Desk.execute(corners, "P0010aa19;P0010ra19;P0010aa99ja99;");
+    measured(corners, 1, 1, 2, 0);
+    measured(corners, 2, 1, 1, 0);
+    measured(corners, 3, 1, 3, 0);
+    measured(corners, 1, 4, 7, 50);
   }
 
   private static void promise12FrontAndSide() {

@@ -179,6 +179,11 @@ public final class LotTest {
   private static void promise09LargestAmongBuildings() {
     PermitOffice o = Desk.office("L0Naa95;L0Naf94;Z000;Z010;Z0299;Z0499;Z060;", "P0010ca12;P0010gd11;V0299,99;V0399,99;");
     Check.due(45, () -> o.largest(0));
+    Desk.execute(o, "P0010ba11;");
+    o.save();
+    o.decide(2);
+    Check.due(36, () -> o.largest(0));
+    o.restore();
     o.decide(0);
     Check.due(6 * 5, () -> o.largest(0));
     o.decide(1);

@@ -9,6 +9,7 @@ public final class UndoTest {
   public static void main(String[] args) {
     promise29UndoesEachCall();
     promise29AtMostSix();
+    promise29LeavesNothing();
     promise29NotUndoable();
     promise29Buffer();
     promise30Save();
@@ -86,6 +87,49 @@ public final class UndoTest {
     Check.due(7, () -> o.count(3));
     Check.due(0, o::undo);
     Check.due(6, () -> o.count(3));
+  }
+
+  /** What was undone must not show in what takes its place, nor what a snapshot kept in what came later. */
+  private static void promise29LeavesNothing() {
+    PermitOffice o = Desk.office("L0Naa99;Z0530;");
+    o.save();
+    Desk.execute(o, "V072,9;P0032cc22;P0012ee11;P0042gg11;C10a;C10b;");
+    Check.due(2, () -> o.decide(0));
+    Check.due(2, () -> o.decide(1));
+    Check.due(1, () -> o.decide(2));
+    o.extend(0);
+    o.inspect(0);
+    o.inspect(1);
+    Desk.execute(o, "Z009;");
+    o.restore();
+    Desk.execute(o, "Z008;");
+    Desk.execute(o, "Z002;");
+    Desk.execute(o, "L0Wja11;P0011cc11;P0011aa11;P0011ii11;");
+    int[] first = {0, 0, 0, 1, 1, 1, 1, 0, 0, -1, 0, 0, 0};
+    for (int i = 0; i < 13; i++) {
+      int what = i;
+      Check.due(first[i], () -> o.permit(0, what));
+      Check.due(first[i], () -> o.permit(1, what));
+      Check.due(first[i], () -> o.permit(2, what));
+    }
+    Check.due(21, () -> o.account(1, 0));
+    Check.due(0, () -> o.account(2, 1));
+    Check.due(0, () -> o.account(0, 1));
+    Desk.execute(o, "Z0563;");
+    Check.due(1, () -> o.decide(1));
+    Check.due(2, () -> o.reason(1));
+    o.save();
+    o.undo();
+    Desk.execute(o, "P0011ee11;Z000;");
+    Check.due(1, () -> o.decide(1));
+    Check.due(3, () -> o.reason(1));
+    o.decide(0);
+    Check.due(45, () -> o.extend(0));
+    Desk.execute(o, "Z001;");
+    o.restore();
+    Check.due(2, () -> o.reason(1));
+    Check.due(2, () -> o.decide(0));
+    Check.due(45, () -> o.extend(0));
   }
 
   /** Calls that are not named, or that throw, are no calls to undo. */

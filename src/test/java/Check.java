@@ -1,3 +1,4 @@
+import java.util.NoSuchElementException;
 import java.util.Objects;
 
 /** Compares answers with those that are due, and ends a test with exit code 1 if one was wrong. */
@@ -5,6 +6,11 @@ final class Check {
   interface Call {
     Object answer();
   }
+
+  static final Class<IllegalArgumentException> ILLEGAL = IllegalArgumentException.class;
+  static final Class<IllegalStateException> STATE = IllegalStateException.class;
+  static final Class<IndexOutOfBoundsException> INDEX = IndexOutOfBoundsException.class;
+  static final Class<NoSuchElementException> NO_SUCH = NoSuchElementException.class;
 
   private static int checked = 0;
   private static int wrong = 0;
@@ -51,13 +57,16 @@ final class Check {
     same(placeOfCall(), want, got);
   }
 
+  /** The lines of the test, from the call outwards, as many calls are made by helpers of a test. */
   private static String placeOfCall() {
+    StringBuilder place = new StringBuilder();
     for (StackTraceElement frame : Thread.currentThread().getStackTrace()) {
       String name = frame.getClassName();
-      if (!name.equals("Check") && !name.equals("Desk") && !name.startsWith("java.")) {
-        return frame.getFileName() + ":" + frame.getLineNumber() + " (" + frame.getMethodName() + ")";
+      if (!name.equals("Check") && !name.equals("Desk") && !name.startsWith("java.") && !frame.getMethodName().equals("main")) {
+        place.append(frame.getFileName()).append(':').append(frame.getLineNumber());
+        place.append(" (").append(frame.getMethodName()).append(") ");
       }
     }
-    return "somewhere";
+    return place.toString().trim();
   }
 }

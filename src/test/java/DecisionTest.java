@@ -1,13 +1,5 @@
-import java.util.NoSuchElementException;
-
 /** Promises 14 to 19: decide, reason, revoke, urgent, variance, needed. */
 public final class DecisionTest {
-  private static final Class<IllegalArgumentException> ILLEGAL = IllegalArgumentException.class;
-  private static final Class<IllegalStateException> STATE = IllegalStateException.class;
-  private static final Class<IndexOutOfBoundsException> INDEX = IndexOutOfBoundsException.class;
-  private static final Class<NoSuchElementException> NO_SUCH = NoSuchElementException.class;
-  private static final int[] WILD = {Integer.MIN_VALUE, -2, 100, Integer.MAX_VALUE};
-
   public static void main(String[] args) {
     promise14Decide();
     promise14NamedVariances();
@@ -40,10 +32,10 @@ public final class DecisionTest {
     Desk.execute(o, "P0021dd51;P0011aa11;");
     Check.due(1, () -> o.decide(4));
     Check.due(10, () -> o.account(4, 1));
-    Desk.refused(INDEX, o, () -> o.decide(-1));
-    Desk.refused(INDEX, o, () -> o.decide(5));
-    for (int wild : WILD) {
-      Desk.refused(INDEX, o, () -> o.decide(wild));
+    Desk.refused(Check.INDEX, o, () -> o.decide(-1));
+    Desk.refused(Check.INDEX, o, () -> o.decide(5));
+    for (int wild : Desk.WILD) {
+      Desk.refused(Check.INDEX, o, () -> o.decide(wild));
     }
   }
 
@@ -74,45 +66,17 @@ public final class DecisionTest {
   }
 
   private static void promise14OnlyApplied() {
-    for (PermitOffice o : offices()) {
+    for (PermitOffice o : Desk.officesByStatus()) {
       if (o.permit(0, 0) != 0) {
-        Desk.refused(STATE, o, () -> o.decide(0));
+        Desk.refused(Check.STATE, o, () -> o.decide(0));
       }
     }
-  }
-
-  /** An office for each status that its permit 0 can have, in the order of the statuses. */
-  static PermitOffice[] offices() {
-    PermitOffice[] offices = new PermitOffice[7];
-    for (int status = 0; status < 7; status++) {
-      PermitOffice o = Desk.office("L0Naa99;P0011ee11;");
-      offices[status] = o;
-      if (status == 1) {
-        Desk.execute(o, "Z050;");
-      } else if (status == 6) {
-        Desk.execute(o, "C00a;");
-      }
-      if (status != 0) {
-        o.decide(0);
-      }
-      for (int i = 0; i < (status == 3 ? 4 : status == 6 ? 3 : 0); i++) {
-        o.inspect(0);
-      }
-      if (status == 4) {
-        o.pass(31);
-      } else if (status == 5) {
-        o.revoke(0);
-      }
-      int want = status;
-      Check.due(want, () -> o.permit(0, 0));
-    }
-    return offices;
   }
 
   private static void promise15Reason() {
-    for (PermitOffice o : offices()) {
+    for (PermitOffice o : Desk.officesByStatus()) {
       if (o.permit(0, 0) != 1) {
-        Desk.refused(NO_SUCH, o, () -> o.reason(0));
+        Desk.refused(Check.NO_SUCH, o, () -> o.reason(0));
       }
     }
     PermitOffice o = Desk.office("L0Naa99;Z0531;P0011ee11ja11;P0511aa11;P0511ea11;P0540cc22;");
@@ -131,11 +95,11 @@ public final class DecisionTest {
     o.undo();
     Check.due(8, () -> o.reason(6));
     o.undo();
-    Desk.refused(NO_SUCH, o, () -> o.reason(6));
-    Desk.refused(INDEX, o, () -> o.reason(-1));
-    Desk.refused(INDEX, o, () -> o.reason(7));
-    for (int wild : WILD) {
-      Desk.refused(INDEX, o, () -> o.reason(wild));
+    Desk.refused(Check.NO_SUCH, o, () -> o.reason(6));
+    Desk.refused(Check.INDEX, o, () -> o.reason(-1));
+    Desk.refused(Check.INDEX, o, () -> o.reason(7));
+    for (int wild : Desk.WILD) {
+      Desk.refused(Check.INDEX, o, () -> o.reason(wild));
     }
   }
 
@@ -151,18 +115,18 @@ public final class DecisionTest {
       Check.due(5, () -> o.permit(0, 0));
       Check.due(refund, () -> o.account(0, 1));
       Check.due(21 - refund, () -> o.account(0, 2));
-      Desk.refused(STATE, o, () -> o.revoke(0));
+      Desk.refused(Check.STATE, o, () -> o.revoke(0));
     }
-    PermitOffice[] offices = offices();
+    PermitOffice[] offices = Desk.officesByStatus();
     for (int status : new int[] {0, 1, 3, 4, 5}) {
-      Desk.refused(STATE, offices[status], () -> offices[status].revoke(0));
+      Desk.refused(Check.STATE, offices[status], () -> offices[status].revoke(0));
     }
     Check.due(8, () -> offices[2].revoke(0));
     Check.due(8, () -> offices[6].revoke(0));
     Check.due(5, () -> offices[6].permit(0, 0));
-    Desk.refused(INDEX, offices[0], () -> offices[0].revoke(1));
-    for (int wild : WILD) {
-      Desk.refused(INDEX, offices[0], () -> offices[0].revoke(wild));
+    Desk.refused(Check.INDEX, offices[0], () -> offices[0].revoke(1));
+    for (int wild : Desk.WILD) {
+      Desk.refused(Check.INDEX, offices[0], () -> offices[0].revoke(wild));
     }
   }
 
@@ -171,10 +135,10 @@ public final class DecisionTest {
       int index = i;
       Check.due(permits[i], () -> o.urgent(index));
     }
-    Desk.refused(NO_SUCH, o, () -> o.urgent(permits.length));
-    Desk.refused(NO_SUCH, o, () -> o.urgent(-1));
-    for (int wild : WILD) {
-      Desk.refused(NO_SUCH, o, () -> o.urgent(wild));
+    Desk.refused(Check.NO_SUCH, o, () -> o.urgent(permits.length));
+    Desk.refused(Check.NO_SUCH, o, () -> o.urgent(-1));
+    for (int wild : Desk.WILD) {
+      Desk.refused(Check.NO_SUCH, o, () -> o.urgent(wild));
     }
   }
 
@@ -243,13 +207,13 @@ public final class DecisionTest {
     varianceIs(o, 0, 0, 5, 2, 5, 2, 0);
     varianceIs(o, 3, 1, 2, 1, 10, 0, 1);
     varianceIs(o, 4, 0, 5, 3, 10, 2, 1);
-    Desk.refused(INDEX, o, () -> o.variance(-1, 0));
-    Desk.refused(INDEX, o, () -> o.variance(5, 6));
-    Desk.refused(ILLEGAL, o, () -> o.variance(3, 6));
-    Desk.refused(ILLEGAL, o, () -> o.variance(0, -1));
-    for (int wild : WILD) {
-      Desk.refused(INDEX, o, () -> o.variance(wild, wild));
-      Desk.refused(ILLEGAL, o, () -> o.variance(0, wild));
+    Desk.refused(Check.INDEX, o, () -> o.variance(-1, 0));
+    Desk.refused(Check.INDEX, o, () -> o.variance(5, 6));
+    Desk.refused(Check.ILLEGAL, o, () -> o.variance(3, 6));
+    Desk.refused(Check.ILLEGAL, o, () -> o.variance(0, -1));
+    for (int wild : Desk.WILD) {
+      Desk.refused(Check.INDEX, o, () -> o.variance(wild, wild));
+      Desk.refused(Check.ILLEGAL, o, () -> o.variance(0, wild));
     }
   }
 
@@ -268,11 +232,11 @@ public final class DecisionTest {
       int k = kind;
       Check.due(0, () -> o.needed(0, k));
     }
-    Desk.refused(INDEX, o, () -> o.needed(-1, 2));
-    Desk.refused(INDEX, o, () -> o.needed(1, 9));
+    Desk.refused(Check.INDEX, o, () -> o.needed(-1, 2));
+    Desk.refused(Check.INDEX, o, () -> o.needed(1, 9));
     for (int kind : new int[] {-1, 0, 1, 9, 100, Integer.MIN_VALUE, Integer.MAX_VALUE}) {
-      Desk.refused(ILLEGAL, o, () -> o.needed(0, kind));
-      Desk.refused(INDEX, o, () -> o.needed(kind == 0 ? -1 : kind, kind));
+      Desk.refused(Check.ILLEGAL, o, () -> o.needed(0, kind));
+      Desk.refused(Check.INDEX, o, () -> o.needed(kind == 0 ? -1 : kind, kind));
     }
   }
 

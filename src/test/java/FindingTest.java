@@ -1,11 +1,5 @@
-import java.util.NoSuchElementException;
-
 /** Promises 10 to 13: permit, findings, finding, worst. */
 public final class FindingTest {
-  private static final Class<IllegalArgumentException> ILLEGAL = IllegalArgumentException.class;
-  private static final Class<IndexOutOfBoundsException> INDEX = IndexOutOfBoundsException.class;
-  private static final int[] WILD = {Integer.MIN_VALUE, -2, 100, Integer.MAX_VALUE};
-
   public static void main(String[] args) {
     promise10Permit();
     promise10PermitOverItsLife();
@@ -38,13 +32,13 @@ public final class FindingTest {
     permitIs(o, 1, 0, 0, 0, 4, 0, 82, 328, 0, 0, -1, 0, 3, 3);
     o.fulfil(1, 'a');
     permitIs(o, 1, 0, 0, 0, 4, 0, 82, 328, 0, 0, -1, 0, 1, 3);
-    Desk.refused(INDEX, o, () -> o.permit(-1, 0));
-    Desk.refused(INDEX, o, () -> o.permit(2, 13));
-    Desk.refused(ILLEGAL, o, () -> o.permit(0, 13));
-    Desk.refused(ILLEGAL, o, () -> o.permit(0, -1));
-    for (int wild : WILD) {
-      Desk.refused(INDEX, o, () -> o.permit(wild, wild));
-      Desk.refused(ILLEGAL, o, () -> o.permit(0, wild));
+    Desk.refused(Check.INDEX, o, () -> o.permit(-1, 0));
+    Desk.refused(Check.INDEX, o, () -> o.permit(2, 13));
+    Desk.refused(Check.ILLEGAL, o, () -> o.permit(0, 13));
+    Desk.refused(Check.ILLEGAL, o, () -> o.permit(0, -1));
+    for (int wild : Desk.WILD) {
+      Desk.refused(Check.INDEX, o, () -> o.permit(wild, wild));
+      Desk.refused(Check.ILLEGAL, o, () -> o.permit(0, wild));
     }
   }
 
@@ -108,10 +102,10 @@ public final class FindingTest {
     Desk.execute(o, "P0010dd12;");
     Check.due(0b10, () -> o.findings(2, false));
     Check.due(0, () -> o.findings(0, false));
-    Desk.refused(INDEX, o, () -> o.findings(-1, false));
-    Desk.refused(INDEX, o, () -> o.findings(3, true));
-    for (int wild : WILD) {
-      Desk.refused(INDEX, o, () -> o.findings(wild, true));
+    Desk.refused(Check.INDEX, o, () -> o.findings(-1, false));
+    Desk.refused(Check.INDEX, o, () -> o.findings(3, true));
+    for (int wild : Desk.WILD) {
+      Desk.refused(Check.INDEX, o, () -> o.findings(wild, true));
     }
   }
 
@@ -369,27 +363,27 @@ public final class FindingTest {
 
   private static void promise12Wrong() {
     PermitOffice o = Desk.office("L0Naa99;P0011ee11;");
-    Desk.refused(INDEX, o, () -> o.finding(-1, 0, 0));
-    Desk.refused(INDEX, o, () -> o.finding(1, 9, 3));
-    Desk.refused(ILLEGAL, o, () -> o.finding(0, -1, 0));
-    Desk.refused(ILLEGAL, o, () -> o.finding(0, 9, 0));
-    Desk.refused(ILLEGAL, o, () -> o.finding(0, 0, -1));
-    Desk.refused(ILLEGAL, o, () -> o.finding(0, 8, 3));
-    for (int wild : WILD) {
-      Desk.refused(INDEX, o, () -> o.finding(wild, wild, wild));
-      Desk.refused(ILLEGAL, o, () -> o.finding(0, wild, 0));
-      Desk.refused(ILLEGAL, o, () -> o.finding(0, 0, wild));
+    Desk.refused(Check.INDEX, o, () -> o.finding(-1, 0, 0));
+    Desk.refused(Check.INDEX, o, () -> o.finding(1, 9, 3));
+    Desk.refused(Check.ILLEGAL, o, () -> o.finding(0, -1, 0));
+    Desk.refused(Check.ILLEGAL, o, () -> o.finding(0, 9, 0));
+    Desk.refused(Check.ILLEGAL, o, () -> o.finding(0, 0, -1));
+    Desk.refused(Check.ILLEGAL, o, () -> o.finding(0, 8, 3));
+    for (int wild : Desk.WILD) {
+      Desk.refused(Check.INDEX, o, () -> o.finding(wild, wild, wild));
+      Desk.refused(Check.ILLEGAL, o, () -> o.finding(0, wild, 0));
+      Desk.refused(Check.ILLEGAL, o, () -> o.finding(0, 0, wild));
     }
   }
 
   private static void promise13Worst() {
     PermitOffice o = Desk.office("L0Naa99;L1Nja99;P1011ne11;P0032ee11;P0011cc11;P0091aa11;", "Z000;C10b;");
-    Check.thrown(NoSuchElementException.class, o::worst);
+    Check.thrown(Check.NO_SUCH, o::worst);
     for (int i = 0; i < 4; i++) {
       o.decide(i);
     }
     Check.due(1, () -> o.permit(3, 0));
-    Check.thrown(NoSuchElementException.class, o::worst);
+    Check.thrown(Check.NO_SUCH, o::worst);
     Desk.execute(o, "Z050;");
     Check.due(1, o::worst);
     Desk.execute(o, "Z150;");
@@ -408,13 +402,13 @@ public final class FindingTest {
     Desk.execute(o, "V171,9;");
     Check.due(1, o::worst);
     Desk.execute(o, "V071,9;");
-    Check.thrown(NoSuchElementException.class, o::worst);
+    Check.thrown(Check.NO_SUCH, o::worst);
     o.pass(10);
     Check.due(0, o::worst);
     Desk.execute(o, "Z038;Z160;Z060;V171,0;V074,0;");
-    Check.thrown(NoSuchElementException.class, o::worst);
+    Check.thrown(Check.NO_SUCH, o::worst);
     o.pass(21);
     Check.due(1, o::worst);
-    Desk.refused(NoSuchElementException.class, Desk.office("L0Naa99;"), Desk.office("L0Naa99;")::worst);
+    Desk.refused(Check.NO_SUCH, Desk.office("L0Naa99;"), Desk.office("L0Naa99;")::worst);
   }
 }

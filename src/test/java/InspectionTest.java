@@ -1,13 +1,5 @@
-import java.util.NoSuchElementException;
-
 /** Promises 20 to 25: condition, fulfil, inspect, reinstate, extend, pass. */
 public final class InspectionTest {
-  private static final Class<IllegalArgumentException> ILLEGAL = IllegalArgumentException.class;
-  private static final Class<IllegalStateException> STATE = IllegalStateException.class;
-  private static final Class<IndexOutOfBoundsException> INDEX = IndexOutOfBoundsException.class;
-  private static final Class<NoSuchElementException> NO_SUCH = NoSuchElementException.class;
-  private static final int[] WILD = {Integer.MIN_VALUE, -2, 100, Integer.MAX_VALUE};
-
   public static void main(String[] args) {
     promise20Condition();
     promise21Fulfil();
@@ -44,17 +36,17 @@ public final class InspectionTest {
     conditionIs(o, 2, 1, 'a', 0);
     conditionIs(o, 3, 2, 'm', 1);
     conditionIs(o, 4, 3, 'a', 0);
-    Desk.refused(INDEX, o, () -> o.condition(-1, 0, 0));
-    Desk.refused(INDEX, o, () -> o.condition(2, 0, 3));
-    Desk.refused(INDEX, o, () -> o.condition(0, -1, 3));
-    Desk.refused(INDEX, o, () -> o.condition(0, 6, -1));
-    Desk.refused(INDEX, o, () -> o.condition(1, 1, 0));
-    Desk.refused(ILLEGAL, o, () -> o.condition(1, 0, 3));
-    Desk.refused(ILLEGAL, o, () -> o.condition(0, 5, -1));
-    for (int wild : WILD) {
-      Desk.refused(INDEX, o, () -> o.condition(wild, wild, wild));
-      Desk.refused(INDEX, o, () -> o.condition(0, wild, wild));
-      Desk.refused(ILLEGAL, o, () -> o.condition(0, 0, wild));
+    Desk.refused(Check.INDEX, o, () -> o.condition(-1, 0, 0));
+    Desk.refused(Check.INDEX, o, () -> o.condition(2, 0, 3));
+    Desk.refused(Check.INDEX, o, () -> o.condition(0, -1, 3));
+    Desk.refused(Check.INDEX, o, () -> o.condition(0, 6, -1));
+    Desk.refused(Check.INDEX, o, () -> o.condition(1, 1, 0));
+    Desk.refused(Check.ILLEGAL, o, () -> o.condition(1, 0, 3));
+    Desk.refused(Check.ILLEGAL, o, () -> o.condition(0, 5, -1));
+    for (int wild : Desk.WILD) {
+      Desk.refused(Check.INDEX, o, () -> o.condition(wild, wild, wild));
+      Desk.refused(Check.INDEX, o, () -> o.condition(0, wild, wild));
+      Desk.refused(Check.ILLEGAL, o, () -> o.condition(0, 0, wild));
     }
   }
 
@@ -64,21 +56,21 @@ public final class InspectionTest {
     Check.due(2, () -> o.permit(0, 11));
     Check.due(4, () -> o.permit(0, 12));
     Check.due(1, () -> o.permit(1, 11));
-    Desk.refused(NO_SUCH, o, () -> o.fulfil(0, 'a'));
+    Desk.refused(Check.NO_SUCH, o, () -> o.fulfil(0, 'a'));
     Check.due(1, () -> o.fulfil(0, 'c'));
     Desk.execute(o, "C00a;");
     Check.due(1, () -> o.fulfil(0, 'a'));
     Check.due(0, () -> o.fulfil(0, 'b'));
     Check.due(0, () -> o.fulfil(1, 'a'));
     for (int letter : new int[] {'d', 'B', 0, -1, 'b' + 256, Integer.MIN_VALUE, Integer.MAX_VALUE}) {
-      Desk.refused(NO_SUCH, o, () -> o.fulfil(0, letter));
-      Desk.refused(INDEX, o, () -> o.fulfil(2, letter));
+      Desk.refused(Check.NO_SUCH, o, () -> o.fulfil(0, letter));
+      Desk.refused(Check.INDEX, o, () -> o.fulfil(2, letter));
     }
-    Desk.refused(INDEX, o, () -> o.fulfil(-1, 'a'));
-    for (int wild : WILD) {
-      Desk.refused(INDEX, o, () -> o.fulfil(wild, 'a'));
+    Desk.refused(Check.INDEX, o, () -> o.fulfil(-1, 'a'));
+    for (int wild : Desk.WILD) {
+      Desk.refused(Check.INDEX, o, () -> o.fulfil(wild, 'a'));
     }
-    for (PermitOffice each : DecisionTest.offices()) {
+    for (PermitOffice each : Desk.officesByStatus()) {
       Desk.execute(each, "C03x;");
       int open = each.permit(0, 11);
       Check.due(open - 1, () -> each.fulfil(0, 'x'));
@@ -112,11 +104,11 @@ public final class InspectionTest {
     Check.due(36, () -> o.account(0, 0));
     Check.due(3, () -> o.permit(0, 0));
     Check.due(4, () -> o.permit(0, 7));
-    Desk.refused(STATE, o, () -> o.inspect(0));
-    Desk.refused(INDEX, o, () -> o.inspect(-1));
-    Desk.refused(INDEX, o, () -> o.inspect(1));
-    for (int wild : WILD) {
-      Desk.refused(INDEX, o, () -> o.inspect(wild));
+    Desk.refused(Check.STATE, o, () -> o.inspect(0));
+    Desk.refused(Check.INDEX, o, () -> o.inspect(-1));
+    Desk.refused(Check.INDEX, o, () -> o.inspect(1));
+    for (int wild : Desk.WILD) {
+      Desk.refused(Check.INDEX, o, () -> o.inspect(wild));
     }
   }
 
@@ -140,7 +132,7 @@ public final class InspectionTest {
     Check.due(3, () -> o.permit(0, 8));
     Check.due(2, () -> o.permit(0, 7));
     Check.due(41, () -> o.account(0, 0));
-    Desk.refused(STATE, o, () -> o.inspect(0));
+    Desk.refused(Check.STATE, o, () -> o.inspect(0));
   }
 
   private static void promise22Limit() {
@@ -175,7 +167,7 @@ public final class InspectionTest {
     Check.due(0, () -> o.permit(0, 8));
     Check.due(1, () -> o.permit(0, 7));
     Check.due(56, () -> o.account(0, 0));
-    Desk.refused(STATE, o, () -> o.reinstate(0));
+    Desk.refused(Check.STATE, o, () -> o.reinstate(0));
     for (int i = 0; i < 3; i++) {
       Check.due(2, () -> o.permit(0, 0));
       Check.due(false, () -> o.inspect(0));
@@ -183,10 +175,10 @@ public final class InspectionTest {
     Check.due(66, () -> o.account(0, 0));
     Check.due(1, () -> o.reinstate(0));
     Check.due(91, () -> o.account(0, 0));
-    Desk.refused(INDEX, o, () -> o.reinstate(-1));
-    Desk.refused(INDEX, o, () -> o.reinstate(1));
-    for (int wild : WILD) {
-      Desk.refused(INDEX, o, () -> o.reinstate(wild));
+    Desk.refused(Check.INDEX, o, () -> o.reinstate(-1));
+    Desk.refused(Check.INDEX, o, () -> o.reinstate(1));
+    for (int wild : Desk.WILD) {
+      Desk.refused(Check.INDEX, o, () -> o.reinstate(wild));
     }
   }
 
@@ -197,24 +189,24 @@ public final class InspectionTest {
     Check.due(47, () -> o.extend(0));
     Check.due(47, () -> o.permit(0, 9));
     Check.due(36, () -> o.account(0, 0));
-    Desk.refused(STATE, o, () -> o.extend(0));
+    Desk.refused(Check.STATE, o, () -> o.extend(0));
     o.inspect(0);
     o.inspect(0);
     o.inspect(0);
-    Desk.refused(STATE, o, () -> o.extend(0));
+    Desk.refused(Check.STATE, o, () -> o.extend(0));
     o.reinstate(0);
     Check.due(32, () -> o.permit(0, 9));
-    Desk.refused(STATE, o, () -> o.extend(0));
+    Desk.refused(Check.STATE, o, () -> o.extend(0));
     o.fulfil(0, 'a');
     o.inspect(0);
-    Desk.refused(STATE, o, () -> o.extend(0));
+    Desk.refused(Check.STATE, o, () -> o.extend(0));
     o.decide(1);
     o.inspect(1);
     Check.due(47, () -> o.extend(1));
-    Desk.refused(INDEX, o, () -> o.extend(-1));
-    Desk.refused(INDEX, o, () -> o.extend(2));
-    for (int wild : WILD) {
-      Desk.refused(INDEX, o, () -> o.extend(wild));
+    Desk.refused(Check.INDEX, o, () -> o.extend(-1));
+    Desk.refused(Check.INDEX, o, () -> o.extend(2));
+    for (int wild : Desk.WILD) {
+      Desk.refused(Check.INDEX, o, () -> o.extend(wild));
     }
     o.undo();
     Check.due(32, () -> o.permit(1, 9));
@@ -227,7 +219,7 @@ public final class InspectionTest {
     Check.due(0, () -> o.pass(50));
     Check.due(51, () -> o.count(3));
     for (int days : new int[] {0, 51, -1, Integer.MIN_VALUE, Integer.MAX_VALUE}) {
-      Desk.refused(ILLEGAL, o, () -> o.pass(days));
+      Desk.refused(Check.ILLEGAL, o, () -> o.pass(days));
     }
   }
 
@@ -260,15 +252,15 @@ public final class InspectionTest {
   }
 
   private static void onlyWithTheRightStatus() {
-    PermitOffice[] offices = DecisionTest.offices();
+    PermitOffice[] offices = Desk.officesByStatus();
     for (int i = 0; i < 7; i++) {
       PermitOffice o = offices[i];
       if (i != 2) {
-        Desk.refused(STATE, o, () -> o.inspect(0));
-        Desk.refused(STATE, o, () -> o.extend(0));
+        Desk.refused(Check.STATE, o, () -> o.inspect(0));
+        Desk.refused(Check.STATE, o, () -> o.extend(0));
       }
       if (i != 6) {
-        Desk.refused(STATE, o, () -> o.reinstate(0));
+        Desk.refused(Check.STATE, o, () -> o.reinstate(0));
       }
     }
   }

@@ -1,9 +1,5 @@
 /** Promises 5 to 9: rule, lot, rezone, cell, largest. */
 public final class LotTest {
-  private static final Class<IllegalArgumentException> ILLEGAL = IllegalArgumentException.class;
-  private static final Class<IndexOutOfBoundsException> INDEX = IndexOutOfBoundsException.class;
-  private static final int[] WILD = {Integer.MIN_VALUE, -2, 100, Integer.MAX_VALUE};
-
   public static void main(String[] args) {
     promise05Rule();
     promise06Lot();
@@ -21,13 +17,13 @@ public final class LotTest {
       int rule = i;
       Check.due(want[i], () -> o.rule(rule / 7, rule % 7));
     }
-    Desk.refused(INDEX, o, () -> o.rule(-1, 0));
-    Desk.refused(INDEX, o, () -> o.rule(4, 7));
-    Desk.refused(ILLEGAL, o, () -> o.rule(0, -1));
-    Desk.refused(ILLEGAL, o, () -> o.rule(3, 7));
-    for (int wild : WILD) {
-      Desk.refused(INDEX, o, () -> o.rule(wild, wild));
-      Desk.refused(ILLEGAL, o, () -> o.rule(1, wild));
+    Desk.refused(Check.INDEX, o, () -> o.rule(-1, 0));
+    Desk.refused(Check.INDEX, o, () -> o.rule(4, 7));
+    Desk.refused(Check.ILLEGAL, o, () -> o.rule(0, -1));
+    Desk.refused(Check.ILLEGAL, o, () -> o.rule(3, 7));
+    for (int wild : Desk.WILD) {
+      Desk.refused(Check.INDEX, o, () -> o.rule(wild, wild));
+      Desk.refused(Check.ILLEGAL, o, () -> o.rule(1, wild));
     }
   }
 
@@ -55,13 +51,13 @@ public final class LotTest {
     lotIs(o, 0, 2, 1, 113, 10, 20, 44);
     o.revoke(0);
     lotIs(o, 0, 2, 1, 113, 1, 2, 44);
-    Desk.refused(INDEX, o, () -> o.lot(-1, 0));
-    Desk.refused(INDEX, o, () -> o.lot(3, 6));
-    Desk.refused(ILLEGAL, o, () -> o.lot(2, 6));
-    Desk.refused(ILLEGAL, o, () -> o.lot(0, -1));
-    for (int wild : WILD) {
-      Desk.refused(INDEX, o, () -> o.lot(wild, wild));
-      Desk.refused(ILLEGAL, o, () -> o.lot(0, wild));
+    Desk.refused(Check.INDEX, o, () -> o.lot(-1, 0));
+    Desk.refused(Check.INDEX, o, () -> o.lot(3, 6));
+    Desk.refused(Check.ILLEGAL, o, () -> o.lot(2, 6));
+    Desk.refused(Check.ILLEGAL, o, () -> o.lot(0, -1));
+    for (int wild : Desk.WILD) {
+      Desk.refused(Check.INDEX, o, () -> o.lot(wild, wild));
+      Desk.refused(Check.ILLEGAL, o, () -> o.lot(0, wild));
     }
     lotThatIsWiderThanARectangle();
   }
@@ -86,13 +82,13 @@ public final class LotTest {
     Check.due(3, () -> o.rezone(0, 0));
     Check.due(2, () -> o.finding(0, 2, 1));
     Check.due(4, () -> o.count(6));
-    Desk.refused(INDEX, o, () -> o.rezone(-1, 0));
-    Desk.refused(INDEX, o, () -> o.rezone(2, 4));
-    Desk.refused(ILLEGAL, o, () -> o.rezone(0, -1));
-    Desk.refused(ILLEGAL, o, () -> o.rezone(1, 4));
-    for (int wild : WILD) {
-      Desk.refused(INDEX, o, () -> o.rezone(wild, wild));
-      Desk.refused(ILLEGAL, o, () -> o.rezone(0, wild));
+    Desk.refused(Check.INDEX, o, () -> o.rezone(-1, 0));
+    Desk.refused(Check.INDEX, o, () -> o.rezone(2, 4));
+    Desk.refused(Check.ILLEGAL, o, () -> o.rezone(0, -1));
+    Desk.refused(Check.ILLEGAL, o, () -> o.rezone(1, 4));
+    for (int wild : Desk.WILD) {
+      Desk.refused(Check.INDEX, o, () -> o.rezone(wild, wild));
+      Desk.refused(Check.ILLEGAL, o, () -> o.rezone(0, wild));
     }
   }
 
@@ -123,16 +119,16 @@ public final class LotTest {
     o.revoke(0);
     cellIs(o, 1, 1, 0, -1);
     standingBuildingsOutsideTheirLot();
-    Desk.refused(INDEX, o, () -> o.cell(-1, 0, 0));
-    Desk.refused(INDEX, o, () -> o.cell(0, -1, 0));
-    Desk.refused(INDEX, o, () -> o.cell(20, 0, 6));
-    Desk.refused(INDEX, o, () -> o.cell(0, 14, -1));
-    Desk.refused(ILLEGAL, o, () -> o.cell(19, 13, 6));
-    Desk.refused(ILLEGAL, o, () -> o.cell(0, 0, -1));
-    for (int wild : WILD) {
-      Desk.refused(INDEX, o, () -> o.cell(wild, 0, wild));
-      Desk.refused(INDEX, o, () -> o.cell(0, wild, wild));
-      Desk.refused(ILLEGAL, o, () -> o.cell(0, 0, wild));
+    Desk.refused(Check.INDEX, o, () -> o.cell(-1, 0, 0));
+    Desk.refused(Check.INDEX, o, () -> o.cell(0, -1, 0));
+    Desk.refused(Check.INDEX, o, () -> o.cell(20, 0, 6));
+    Desk.refused(Check.INDEX, o, () -> o.cell(0, 14, -1));
+    Desk.refused(Check.ILLEGAL, o, () -> o.cell(19, 13, 6));
+    Desk.refused(Check.ILLEGAL, o, () -> o.cell(0, 0, -1));
+    for (int wild : Desk.WILD) {
+      Desk.refused(Check.INDEX, o, () -> o.cell(wild, 0, wild));
+      Desk.refused(Check.INDEX, o, () -> o.cell(0, wild, wild));
+      Desk.refused(Check.ILLEGAL, o, () -> o.cell(0, 0, wild));
     }
   }
 
@@ -164,10 +160,10 @@ public final class LotTest {
     Check.due(20 * 9 - 20, () -> largestWith(wide, 0, "Z001;"));
     Check.due(18 * 7, () -> largestWith(wide, 0, "Z011;"));
     Check.due(0, () -> largestWith(wide, 0, "Z009;"));
-    Desk.refused(INDEX, o, () -> o.largest(-1));
-    Desk.refused(INDEX, o, () -> o.largest(4));
-    for (int wild : WILD) {
-      Desk.refused(INDEX, o, () -> o.largest(wild));
+    Desk.refused(Check.INDEX, o, () -> o.largest(-1));
+    Desk.refused(Check.INDEX, o, () -> o.largest(4));
+    for (int wild : Desk.WILD) {
+      Desk.refused(Check.INDEX, o, () -> o.largest(wild));
     }
   }
 

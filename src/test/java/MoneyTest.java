@@ -1,9 +1,5 @@
 /** Promises 26 to 28: account, meanFloorArea, count. */
 public final class MoneyTest {
-  private static final Class<IllegalArgumentException> ILLEGAL = IllegalArgumentException.class;
-  private static final Class<IndexOutOfBoundsException> INDEX = IndexOutOfBoundsException.class;
-  private static final int[] WILD = {Integer.MIN_VALUE, -2, 100, Integer.MAX_VALUE};
-
   public static void main(String[] args) {
     promise26Account();
     promise26Wrong();
@@ -54,14 +50,14 @@ public final class MoneyTest {
 
   private static void promise26Wrong() {
     PermitOffice o = Desk.office("L0Naa99;P0011ee11;");
-    Desk.refused(INDEX, o, () -> o.account(-2, 0));
-    Desk.refused(INDEX, o, () -> o.account(1, 3));
-    Desk.refused(ILLEGAL, o, () -> o.account(-1, 3));
-    Desk.refused(ILLEGAL, o, () -> o.account(0, -1));
-    for (int wild : WILD) {
-      Desk.refused(INDEX, o, () -> o.account(wild, wild));
-      Desk.refused(ILLEGAL, o, () -> o.account(0, wild));
-      Desk.refused(ILLEGAL, o, () -> o.account(-1, wild));
+    Desk.refused(Check.INDEX, o, () -> o.account(-2, 0));
+    Desk.refused(Check.INDEX, o, () -> o.account(1, 3));
+    Desk.refused(Check.ILLEGAL, o, () -> o.account(-1, 3));
+    Desk.refused(Check.ILLEGAL, o, () -> o.account(0, -1));
+    for (int wild : Desk.WILD) {
+      Desk.refused(Check.INDEX, o, () -> o.account(wild, wild));
+      Desk.refused(Check.ILLEGAL, o, () -> o.account(0, wild));
+      Desk.refused(Check.ILLEGAL, o, () -> o.account(-1, wild));
     }
   }
 
@@ -128,7 +124,7 @@ public final class MoneyTest {
     Check.due(5, () -> o.count(6));
     Check.due(0, () -> o.count(3));
     for (int what : new int[] {-1, 8, 9, 17, 18, Integer.MIN_VALUE, Integer.MAX_VALUE, -2}) {
-      Desk.refused(ILLEGAL, o, () -> o.count(what));
+      Desk.refused(Check.ILLEGAL, o, () -> o.count(what));
     }
   }
 

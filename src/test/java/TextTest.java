@@ -1,12 +1,5 @@
-import java.util.NoSuchElementException;
-
 /** Promises 1 to 4: a new object, append, execute, errorPosition. */
 public final class TextTest {
-  private static final Class<IllegalArgumentException> ILLEGAL = IllegalArgumentException.class;
-  private static final Class<IllegalStateException> STATE = IllegalStateException.class;
-  private static final Class<IndexOutOfBoundsException> INDEX = IndexOutOfBoundsException.class;
-  private static final Class<NoSuchElementException> NO_SUCH = NoSuchElementException.class;
-
   public static void main(String[] args) {
     promise01NewObject();
     promise02Append();
@@ -33,12 +26,12 @@ public final class TextTest {
     }
     Check.due(-1, () -> o.cell(0, 0, 0));
     Check.due(-1, o::errorPosition);
-    Check.thrown(INDEX, () -> o.lot(0, 0));
-    Check.thrown(INDEX, () -> o.permit(0, 0));
-    Check.thrown(INDEX, () -> o.variance(0, 0));
-    Check.thrown(NO_SUCH, o::worst);
-    Check.thrown(STATE, o::undo);
-    Check.thrown(STATE, o::restore);
+    Check.thrown(Check.INDEX, () -> o.lot(0, 0));
+    Check.thrown(Check.INDEX, () -> o.permit(0, 0));
+    Check.thrown(Check.INDEX, () -> o.variance(0, 0));
+    Check.thrown(Check.NO_SUCH, o::worst);
+    Check.thrown(Check.STATE, o::undo);
+    Check.thrown(Check.STATE, o::restore);
   }
 
   private static void promise02Append() {
@@ -51,22 +44,22 @@ public final class TextTest {
     Check.due(1, o::execute);
     Check.due(0, () -> o.cell(0, 0, 0));
     for (int code : new int[] {1, 9, 32, 127, 128, 200, 255}) {
-      Desk.refused(ILLEGAL, o, () -> o.append(code));
-      Desk.refused(ILLEGAL, o, () -> o.append(code << 8 | 'a'));
-      Desk.refused(ILLEGAL, o, () -> o.append('a' << 24 | code << 16));
-      Desk.refused(ILLEGAL, o, () -> o.append('a' << 8 | code << 24));
+      Desk.refused(Check.ILLEGAL, o, () -> o.append(code));
+      Desk.refused(Check.ILLEGAL, o, () -> o.append(code << 8 | 'a'));
+      Desk.refused(Check.ILLEGAL, o, () -> o.append('a' << 24 | code << 16));
+      Desk.refused(Check.ILLEGAL, o, () -> o.append('a' << 8 | code << 24));
     }
     Check.due(2, () -> o.append(33 << 8 | 126));
     for (int i = 0; i < 14; i++) {
       o.append(Desk.packed("aaaa"));
     }
     Check.due(58, () -> o.count(7));
-    Desk.refused(STATE, o, () -> o.append(Desk.packed("abc")));
-    Desk.refused(ILLEGAL, o, () -> o.append(Desk.packed("abc") | 1 << 24));
+    Desk.refused(Check.STATE, o, () -> o.append(Desk.packed("abc")));
+    Desk.refused(Check.ILLEGAL, o, () -> o.append(Desk.packed("abc") | 1 << 24));
     Check.due(60, () -> o.append('a' << 24 | 'b'));
     Check.due(60, () -> o.append(0));
-    Desk.refused(STATE, o, () -> o.append('a'));
-    Desk.refused(ILLEGAL, o, () -> o.append(32));
+    Desk.refused(Check.STATE, o, () -> o.append('a'));
+    Desk.refused(Check.ILLEGAL, o, () -> o.append(32));
   }
 
   private static void promise03Execute() {
@@ -212,7 +205,7 @@ public final class TextTest {
   private static void promise04Position() {
     PermitOffice o = new PermitOffice();
     Check.due(-1, o::errorPosition);
-    Check.thrown(ILLEGAL, o::execute);
+    Check.thrown(Check.ILLEGAL, o::execute);
     Check.due(0, o::errorPosition);
     Desk.write(o, "Z0");
     Check.due(0, o::errorPosition);

@@ -1,7 +1,5 @@
 /** Promises 29 to 31: undo, save, restore. */
 public final class UndoTest {
-  private static final Class<IllegalStateException> STATE = IllegalStateException.class;
-
   private interface Step {
     void take(PermitOffice office);
   }
@@ -38,7 +36,7 @@ public final class UndoTest {
 
   private static void promise29UndoesEachCall() {
     PermitOffice o = new PermitOffice();
-    Check.thrown(STATE, o::undo);
+    Check.thrown(Check.STATE, o::undo);
     undone(o, x -> Desk.execute(x, "L0Naa99;P0011ee11;P0041cc11;C00a;V052,40;Z0278;"));
     undone(o, x -> x.rezone(0, 1));
     undone(o, x -> x.rezone(0, 1));
@@ -76,7 +74,7 @@ public final class UndoTest {
       Check.due(left, o::undo);
       Check.same("the town after undo", towns[i], town(o));
     }
-    Desk.refused(STATE, o, o::undo);
+    Desk.refused(Check.STATE, o, o::undo);
     Check.due(6, () -> o.count(3));
     o.pass(1);
     o.pass(2);
@@ -152,7 +150,7 @@ public final class UndoTest {
     Check.due(0, () -> o.permit(0, 0));
     Check.due(0, o::undo);
     Check.due(0, () -> o.count(0));
-    Desk.refused(STATE, o, o::undo);
+    Desk.refused(Check.STATE, o, o::undo);
   }
 
   private static void promise29Buffer() {
@@ -182,7 +180,7 @@ public final class UndoTest {
 
   private static void promise31Restore() {
     PermitOffice o = new PermitOffice();
-    Desk.refused(STATE, o, o::restore);
+    Desk.refused(Check.STATE, o, o::restore);
     Desk.execute(o, "L0Naa99;P0011ee11;P0041cc11;C00a;V052,40;Z0278;");
     o.decide(0);
     o.inspect(0);
@@ -206,7 +204,7 @@ public final class UndoTest {
     Check.due(0, () -> o.count(6));
     Check.due(2, () -> o.count(7));
     Check.due(2, o::errorPosition);
-    Desk.refused(STATE, o, o::undo);
+    Desk.refused(Check.STATE, o, o::undo);
     Desk.write(o, "01;");
     Check.due(1, o::execute);
     Check.due(1, () -> o.rule(0, 0));
